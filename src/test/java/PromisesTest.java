@@ -382,6 +382,11 @@ public final class PromisesTest {
         Check.due("everybody fits by turning around", 5, chain.dispatch());
         Check.due("the lowest that leaves the others theirs", "0 1 2 3 4", filled(chain));
 
+        HiringHall idle = ordered(hallOf(0, 0), 0, 1, 2, 3, 4);
+        idle.setRefusing(0, true);
+        Check.due("nobody without skills", 0, idle.dispatch());
+        Check.due("who cannot refuse either", 0, idle.refusalsOf(0));
+
         HiringHall wide = ordered(hallOf(31, 31, 1), 0, 0);
         Check.due("who comes later is not waited for", 2, wide.dispatch());
         Check.due("the first two", "0 1", filled(wide));
@@ -415,6 +420,10 @@ public final class PromisesTest {
         HiringHall far = ordered(hallOf(6, 5, 2), 2, 0, 1);
         Check.due("all three", 3, far.dispatch());
         Check.due("with their skills alone", "0 1 2", filled(far));
+
+        HiringHall later = ordered(hallOf(1, 3, 1), 0, 0, 1);
+        Check.due("three once more", 3, later.dispatch());
+        Check.due("places given before are gone for those after", "0 2 1", filled(later));
     }
 
     private static void dispatchAndRefusals() {
@@ -806,6 +815,9 @@ public final class PromisesTest {
         Check.due("by turning around", 3, turned.fillable());
         Check.due("more than there are", 1, ordered(hallOf(31, 31, 31), 4).fillable());
         Check.due("fewer than there are", 1, ordered(hallOf(31), 0, 1, 2).fillable());
+        HiringHall unskilled = ordered(hallOf(0, 0, 16), 0, 0, 1, 1, 2, 2, 3, 3, 4, 4);
+        Check.due("none without skills", 1, unskilled.fillable());
+        Check.due("and those asked about are not remembered", 1, unskilled.dispatch());
         Check.due("none with the skill", 0, ordered(hallOf(15, 15), 4, 4).fillable());
         Check.due("two by two", 4, ordered(hallOf(1, 1, 1, 6, 6, 6), 0, 0, 1, 2).fillable());
     }
