@@ -39,64 +39,9 @@ public final class PromisesTest {
         Check.end("PromisesTest");
     }
 
-    // ---- halls to begin with
-
-    /** Workers 0, 1, .. on board 0, each with the skills told. */
-    private static HiringHall hallOf(int... skills) {
-        HiringHall hall = new HiringHall();
-        for (int s : skills) {
-            hall.signOn(0, s);
-        }
-        return hall;
-    }
-
-    private static HiringHall ordered(HiringHall hall, int... skills) {
-        for (int s : skills) {
-            hall.order(s);
-        }
-        return hall;
-    }
-
-    /** Worker 0 left place 0 at hour 2, worker 1 fills place 1, worker 2 refuses, worker 3 is away; place 0 is open. */
-    private static HiringHall busyHall() {
-        HiringHall hall = ordered(hallOf(1, 3, 1, 1, 1), 0, 1);
-        hall.signOn(2, 31);
-        hall.setRule(0, true, 30);
-        hall.setRule(2, false, 7);
-        hall.setRefusing(2, true);
-        hall.setAway(3, true);
-        hall.dispatch();
-        hall.leave(0, 2);
-        return hall;
-    }
-
-    private static HiringHall fullHall() {
-        HiringHall hall = new HiringHall();
-        for (int i = 0; i < 30; i++) {
-            hall.signOn(i % 4, i);
-        }
-        return hall;
-    }
-
-    private static String ranks(HiringHall hall, int count) {
-        StringBuilder ranks = new StringBuilder();
-        for (int worker = 0; worker < count; worker++) {
-            ranks.append(worker == 0 ? "" : " ").append(hall.rankOf(worker));
-        }
-        return ranks.toString();
-    }
-
-    private static String filled(HiringHall hall) {
-        StringBuilder filled = new StringBuilder();
-        for (int place = 0; place < hall.places(); place++) {
-            filled.append(place == 0 ? "" : " ").append(hall.workerAt(place));
-        }
-        return filled.toString();
-    }
-
     private static void refusedByAll(String what, String want, java.util.function.Function<HiringHall, Object> call) {
         Check.refused(what + " on a new hall", want, HiringHall::new, call);
-        Check.refused(what + " on a busy hall", want, PromisesTest::busyHall, call);
+        Check.refused(what + " on a busy hall", want, Halls::busy, call);
     }
 
     // ---- 1 to 9: workers and boards
@@ -150,11 +95,11 @@ public final class PromisesTest {
     }
 
     private static void signOnLimit() {
-        HiringHall hall = fullHall();
+        HiringHall hall = Halls.full();
         Check.due("30 workers", 30, hall.workers());
-        Check.refused("the 31st worker", Check.STATE, PromisesTest::fullHall, h -> h.signOn(0, 0));
-        Check.refused("the argument first", Check.ARGUMENT, PromisesTest::fullHall, h -> h.signOn(4, 0));
-        Check.refused("the argument first", Check.ARGUMENT, PromisesTest::fullHall, h -> h.signOn(0, 32));
+        Check.refused("the 31st worker", Check.STATE, Halls::full, h -> h.signOn(0, 0));
+        Check.refused("the argument first", Check.ARGUMENT, Halls::full, h -> h.signOn(4, 0));
+        Check.refused("the argument first", Check.ARGUMENT, Halls::full, h -> h.signOn(0, 32));
         hall.signOff(7);
         Check.due("numbers are never given again", 30, hall.signOn(1, 1));
         Check.due("full again", Check.STATE, () -> hall.signOn(1, 1));
@@ -168,7 +113,7 @@ public final class PromisesTest {
     }
 
     private static void signOff() {
-        HiringHall hall = ordered(hallOf(1, 1, 1), 0, 0);
+        HiringHall hall = Halls.ordered(Halls.of(1, 1, 1), 0, 0);
         Check.due("signOff of a worker without hours", 0, hall.signOff(2));
         Check.due("dispatched", 2, hall.dispatch());
         hall.leave(0, 5);
@@ -180,20 +125,20 @@ public final class PromisesTest {
         Check.due("the work counts for the shift", 13, hall.endShift());
         Check.due("signOff with a whole shift", 8, hall.signOff(1));
         Check.due("nobody is left", 0, hall.workers());
-        Check.refused("signOff at work", Check.STATE, PromisesTest::busyHall, h -> h.signOff(1));
+        Check.refused("signOff at work", Check.STATE, Halls::busy, h -> h.signOff(1));
         int[] nobody = {-1, 6, 30, MIN, MAX};
         for (int worker : nobody) {
             refusedByAll("signOff of " + worker, Check.NO_ELEMENT, h -> h.signOff(worker));
         }
         Check.refused("signOff twice", Check.NO_ELEMENT, () -> {
-            HiringHall gone = busyHall();
+            HiringHall gone = Halls.busy();
             gone.signOff(0);
             return gone;
         }, h -> h.signOff(0));
     }
 
     private static void setSkills() {
-        HiringHall hall = ordered(hallOf(5, 2), 1);
+        HiringHall hall = Halls.ordered(Halls.of(5, 2), 1);
         Check.due("the skills before", 5, hall.setSkills(0, 2));
         Check.due("the skills now", 2, hall.setSkills(0, 2));
         Check.due("the new skill counts", 1, hall.dispatch());
@@ -202,20 +147,20 @@ public final class PromisesTest {
         Check.due("who left may learn", 2, hall.setSkills(0, 31));
         Check.due("all skills", 31, hall.setSkills(0, 0));
         Check.due("no skills", 0, hall.setSkills(0, 1));
-        Check.refused("setSkills at work", Check.STATE, PromisesTest::busyHall, h -> h.setSkills(1, 0));
+        Check.refused("setSkills at work", Check.STATE, Halls::busy, h -> h.setSkills(1, 0));
         refusedByAll("setSkills of nobody", Check.NO_ELEMENT, h -> h.setSkills(6, 1));
         refusedByAll("setSkills of nobody, badly", Check.NO_ELEMENT, h -> h.setSkills(-1, 32));
         int[] bad = {-1, 32, MIN, MAX};
         for (int skills : bad) {
-            Check.refused("setSkills to " + skills, Check.ARGUMENT, PromisesTest::busyHall,
+            Check.refused("setSkills to " + skills, Check.ARGUMENT, Halls::busy,
                     h -> h.setSkills(0, skills));
-            Check.refused("setSkills at work to " + skills, Check.ARGUMENT, PromisesTest::busyHall,
+            Check.refused("setSkills at work to " + skills, Check.ARGUMENT, Halls::busy,
                     h -> h.setSkills(1, skills));
         }
     }
 
     private static void move() {
-        HiringHall hall = hallOf(1, 1, 1);
+        HiringHall hall = Halls.of(1, 1, 1);
         hall.signOn(3, 1);
         Check.due("the board before", 0, hall.move(0, 3));
         Check.due("the board now", 3, hall.boardOf(0));
@@ -226,7 +171,7 @@ public final class PromisesTest {
         Check.due("again", 3, hall.move(0, 3));
         Check.due("the only one of a board", 3, hall.move(3, 1));
         Check.due("stands at the top", 0, hall.rankOf(3));
-        ordered(hall, 0).dispatch();
+        Halls.ordered(hall, 0).dispatch();
         Check.due("at work", 0, hall.placeOf(2));
         Check.due("a worker at work can be moved", 0, hall.move(2, 2));
         Check.due("and stays at work", 0, hall.placeOf(2));
@@ -235,12 +180,12 @@ public final class PromisesTest {
         refusedByAll("move of nobody to no board", Check.NO_ELEMENT, h -> h.move(-1, 4));
         int[] badBoards = {-1, 4, MIN, MAX};
         for (int bad : badBoards) {
-            Check.refused("move to board " + bad, Check.ARGUMENT, PromisesTest::busyHall, h -> h.move(1, bad));
+            Check.refused("move to board " + bad, Check.ARGUMENT, Halls::busy, h -> h.move(1, bad));
         }
     }
 
     private static void setAway() {
-        HiringHall hall = ordered(hallOf(1, 1), 0);
+        HiringHall hall = Halls.ordered(Halls.of(1, 1), 0);
         Check.due("was here", false, hall.setAway(0, true));
         Check.due("was away", true, hall.setAway(0, true));
         Check.due("who is away is not dispatched", 1, hall.dispatch());
@@ -260,7 +205,7 @@ public final class PromisesTest {
     }
 
     private static void setRefusing() {
-        HiringHall hall = ordered(hallOf(1, 1), 0);
+        HiringHall hall = Halls.ordered(Halls.of(1, 1), 0);
         Check.due("did not refuse", false, hall.setRefusing(0, true));
         Check.due("refuses", true, hall.setRefusing(0, true));
         Check.due("telling is no refusal", 0, hall.refusalsOf(0));
@@ -279,7 +224,7 @@ public final class PromisesTest {
     }
 
     private static void setRule() {
-        HiringHall hall = hallOf(1, 2);
+        HiringHall hall = Halls.of(1, 2);
         Check.due("nothing was guaranteed", 0, hall.setRule(0, false, 400));
         Check.due("400 hours were", 400, hall.setRule(0, true, 0));
         Check.due("none were", 0, hall.setRule(0, true, 17));
@@ -287,15 +232,15 @@ public final class PromisesTest {
         Check.due("the rule stays", 17, hall.setRule(0, true, 16));
         Check.due("the guarantee counts", 16, hall.owedTo(1));
         hall.setRefusing(0, true);
-        ordered(hall, 0).replace(0);
-        Check.due("the refusal costs the place", "1 0", ranks(hall, 2));
-        HiringHall free = hallOf(1, 1, 1);
+        Halls.ordered(hall, 0).replace(0);
+        Check.due("the refusal costs the place", "1 0", Halls.ranks(hall, 2));
+        HiringHall free = Halls.of(1, 1, 1);
         free.setRule(0, true, 1);
         free.setRule(0, false, 1);
         free.setRule(1, true, 1);
         free.setRefusing(0, true);
-        ordered(free, 0).dispatch();
-        Check.due("the refusal does not cost the place", "0 2 1", ranks(free, 3));
+        Halls.ordered(free, 0).dispatch();
+        Check.due("the refusal does not cost the place", "0 2 1", Halls.ranks(free, 3));
         int[] badBoards = {-1, 4, MIN, MAX};
         for (int bad : badBoards) {
             refusedByAll("setRule of board " + bad, Check.ARGUMENT, h -> h.setRule(bad, true, 1));
@@ -307,21 +252,21 @@ public final class PromisesTest {
     }
 
     private static void equalise() {
-        HiringHall hall = ordered(hallOf(1, 2, 4, 8, 16), 0, 1, 2, 3);
+        HiringHall hall = Halls.ordered(Halls.of(1, 2, 4, 8, 16), 0, 1, 2, 3);
         hall.signOn(1, 31);
         hall.dispatch();
         hall.leave(1, 2);
         hall.leave(0, 4);
         hall.leave(2, 4);
         hall.leave(3, 6);
-        Check.due("the order before", "1 2 3 4 0", ranks(hall, 5));
+        Check.due("the order before", "1 2 3 4 0", Halls.ranks(hall, 5));
         Check.due("only two have another place", 2, hall.equalise(0));
-        Check.due("fewer hours first, equal ones stay", "2 1 3 4 0", ranks(hall, 5));
+        Check.due("fewer hours first, equal ones stay", "2 1 3 4 0", Halls.ranks(hall, 5));
         Check.due("nothing to change", 0, hall.equalise(0));
         hall.move(4, 0);
         hall.setAway(4, true);
         Check.due("all have another place, those away too", 5, hall.equalise(0));
-        Check.due("the turn anew", "2 1 3 4 0", ranks(hall, 5));
+        Check.due("the turn anew", "2 1 3 4 0", Halls.ranks(hall, 5));
         Check.due("one on a board", 0, hall.equalise(1));
         Check.due("an empty board", 0, hall.equalise(3));
         Check.due("another board stays", 0, hall.rankOf(5));
@@ -329,7 +274,7 @@ public final class PromisesTest {
         hall.move(0, 0);
         hall.endPeriod();
         Check.due("without hours all stay", 0, hall.equalise(0));
-        Check.due("as they are", "4 1 2 3 0", ranks(hall, 5));
+        Check.due("as they are", "4 1 2 3 0", Halls.ranks(hall, 5));
         int[] badBoards = {-1, 4, MIN, MAX};
         for (int bad : badBoards) {
             refusedByAll("equalise of board " + bad, Check.ARGUMENT, h -> h.equalise(bad));
@@ -339,7 +284,7 @@ public final class PromisesTest {
     // ---- 10 to 16: orders and gangs
 
     private static void order() {
-        HiringHall hall = hallOf(31);
+        HiringHall hall = Halls.of(31);
         Check.due("the first place", 0, hall.order(4));
         Check.due("the second place", 1, hall.order(0));
         Check.due("open", HiringHall.NONE, hall.workerAt(1));
@@ -348,7 +293,7 @@ public final class PromisesTest {
         hall.endShift();
         Check.due("numbered anew in the next", 0, hall.order(0));
         Supplier<HiringHall> sixteen = () -> {
-            HiringHall h = hallOf(31, 31);
+            HiringHall h = Halls.of(31, 31);
             for (int place = 0; place < 16; place++) {
                 Check.due("place " + place, place, h.order(place % 5));
             }
@@ -364,10 +309,10 @@ public final class PromisesTest {
     }
 
     private static void dispatchTakes() {
-        HiringHall hall = ordered(hallOf(1, 1, 3, 0, 2), 0, 1);
+        HiringHall hall = Halls.ordered(Halls.of(1, 1, 3, 0, 2), 0, 1);
         Check.due("one without a place is passed over", 2, hall.dispatch());
-        Check.due("0 and 2", "0 2", filled(hall));
-        Check.due("the taken go to the bottom", "3 0 4 1 2", ranks(hall, 5));
+        Check.due("0 and 2", "0 2", Halls.filled(hall));
+        Check.due("the taken go to the bottom", "3 0 4 1 2", Halls.ranks(hall, 5));
         Check.due("passed over is no refusal", 0, hall.refusalsOf(1));
 
         HiringHall boards = new HiringHall();
@@ -375,21 +320,21 @@ public final class PromisesTest {
         boards.signOn(1, 1);
         boards.signOn(0, 1);
         boards.signOn(1, 1);
-        Check.due("by boards", 3, ordered(boards, 0, 0, 0).dispatch());
-        Check.due("0 before 1 before 3", "2 1 3", filled(boards));
+        Check.due("by boards", 3, Halls.ordered(boards, 0, 0, 0).dispatch());
+        Check.due("0 before 1 before 3", "2 1 3", Halls.filled(boards));
 
-        HiringHall chain = ordered(hallOf(3, 6, 12, 24, 17), 0, 1, 2, 3, 4);
+        HiringHall chain = Halls.ordered(Halls.of(3, 6, 12, 24, 17), 0, 1, 2, 3, 4);
         Check.due("everybody fits by turning around", 5, chain.dispatch());
-        Check.due("the lowest that leaves the others theirs", "0 1 2 3 4", filled(chain));
+        Check.due("the lowest that leaves the others theirs", "0 1 2 3 4", Halls.filled(chain));
 
-        HiringHall idle = ordered(hallOf(0, 0), 0, 1, 2, 3, 4);
+        HiringHall idle = Halls.ordered(Halls.of(0, 0), 0, 1, 2, 3, 4);
         idle.setRefusing(0, true);
         Check.due("nobody without skills", 0, idle.dispatch());
         Check.due("who cannot refuse either", 0, idle.refusalsOf(0));
 
-        HiringHall wide = ordered(hallOf(31, 31, 1), 0, 0);
+        HiringHall wide = Halls.ordered(Halls.of(31, 31, 1), 0, 0);
         Check.due("who comes later is not waited for", 2, wide.dispatch());
-        Check.due("the first two", "0 1", filled(wide));
+        Check.due("the first two", "0 1", Halls.filled(wide));
 
         HiringHall many = new HiringHall();
         for (int i = 0; i < 30; i++) {
@@ -400,54 +345,54 @@ public final class PromisesTest {
         }
         Check.due("16 of 30", 16, many.dispatch());
         Check.due("board 0, board 1, and two of board 2",
-                "3 7 11 15 19 23 27 2 6 10 14 18 22 26 1 5", filled(many));
+                "3 7 11 15 19 23 27 2 6 10 14 18 22 26 1 5", Halls.filled(many));
     }
 
     private static void dispatchGivesPlaces() {
-        HiringHall hall = ordered(hallOf(3, 1), 0, 1);
+        HiringHall hall = Halls.ordered(Halls.of(3, 1), 0, 1);
         Check.due("both", 2, hall.dispatch());
-        Check.due("the first leaves the second the only place", "1 0", filled(hall));
-        Check.due("in the order in which they were taken", "0 1", ranks(hall, 2));
+        Check.due("the first leaves the second the only place", "1 0", Halls.filled(hall));
+        Check.due("in the order in which they were taken", "0 1", Halls.ranks(hall, 2));
 
-        HiringHall lowest = ordered(hallOf(3), 1, 0);
+        HiringHall lowest = Halls.ordered(Halls.of(3), 1, 0);
         Check.due("one for two places", 1, lowest.dispatch());
-        Check.due("the lowest", "0 -1", filled(lowest));
+        Check.due("the lowest", "0 -1", Halls.filled(lowest));
 
-        HiringHall same = ordered(hallOf(2, 3, 1), 0, 1, 0, 1);
+        HiringHall same = Halls.ordered(Halls.of(2, 3, 1), 0, 1, 0, 1);
         Check.due("three for four", 3, same.dispatch());
-        Check.due("the lowest of each", "1 0 2 -1", filled(same));
+        Check.due("the lowest of each", "1 0 2 -1", Halls.filled(same));
 
-        HiringHall far = ordered(hallOf(6, 5, 2), 2, 0, 1);
+        HiringHall far = Halls.ordered(Halls.of(6, 5, 2), 2, 0, 1);
         Check.due("all three", 3, far.dispatch());
-        Check.due("with their skills alone", "0 1 2", filled(far));
+        Check.due("with their skills alone", "0 1 2", Halls.filled(far));
 
-        HiringHall later = ordered(hallOf(1, 3, 1), 0, 0, 1);
+        HiringHall later = Halls.ordered(Halls.of(1, 3, 1), 0, 0, 1);
         Check.due("three once more", 3, later.dispatch());
-        Check.due("places given before are gone for those after", "0 2 1", filled(later));
+        Check.due("places given before are gone for those after", "0 2 1", Halls.filled(later));
     }
 
     private static void dispatchAndRefusals() {
-        HiringHall hall = ordered(hallOf(1, 1, 2, 1, 1), 0, 0);
+        HiringHall hall = Halls.ordered(Halls.of(1, 1, 2, 1, 1), 0, 0);
         hall.setRule(0, true, 0);
         hall.setRefusing(0, true);
         hall.setRefusing(2, true);
         hall.setRefusing(4, true);
         Check.due("two are taken", 2, hall.dispatch());
-        Check.due("in turn", "1 3", filled(hall));
-        Check.due("refusers above the taken", "2 3 0 4 1", ranks(hall, 5));
+        Check.due("in turn", "1 3", Halls.filled(hall));
+        Check.due("refusers above the taken", "2 3 0 4 1", Halls.ranks(hall, 5));
         Check.due("counted", 1, hall.refusalsOf(0));
         Check.due("not counted without the skill", 0, hall.refusalsOf(2));
         Check.due("not counted when all places are given", 0, hall.refusalsOf(4));
 
-        HiringHall lenient = ordered(hallOf(1, 1, 1), 0, 0, 0);
+        HiringHall lenient = Halls.ordered(Halls.of(1, 1, 1), 0, 0, 0);
         lenient.setRefusing(0, true);
         Check.due("two of three", 2, lenient.dispatch());
-        Check.due("the place is kept", "0 1 2", ranks(lenient, 3));
-        Check.due("and still open", "1 2 -1", filled(lenient));
+        Check.due("the place is kept", "0 1 2", Halls.ranks(lenient, 3));
+        Check.due("and still open", "1 2 -1", Halls.filled(lenient));
         Check.due("again nobody", 0, lenient.dispatch());
         Check.due("counted again", 2, lenient.refusalsOf(0));
 
-        HiringHall all = ordered(hallOf(1, 1, 1), 0);
+        HiringHall all = Halls.ordered(Halls.of(1, 1, 1), 0);
         all.setRule(0, true, 0);
         for (int worker = 0; worker < 3; worker++) {
             all.setRefusing(worker, true);
@@ -455,71 +400,57 @@ public final class PromisesTest {
         Check.due("all refuse", 0, all.dispatch());
         Check.due("each once, by the turn as it was", "1 1 1",
                 all.refusalsOf(0) + " " + all.refusalsOf(1) + " " + all.refusalsOf(2));
-        Check.due("in the order of refusing", "0 1 2", ranks(all, 3));
+        Check.due("in the order of refusing", "0 1 2", Halls.ranks(all, 3));
         Check.due("nobody has been at work", 8, all.setHours(8));
 
-        HiringHall two = ordered(hallOf(1, 1), 0, 0);
+        HiringHall two = Halls.ordered(Halls.of(1, 1), 0, 0);
         two.signOn(1, 1);
         two.signOn(1, 1);
         two.setRule(1, true, 0);
         two.setRefusing(0, true);
         two.setRefusing(2, true);
         Check.due("each board by its rule", 2, two.dispatch());
-        Check.due("0 keeps the place, 2 loses it", "0 1 0 1", ranks(two, 4));
+        Check.due("0 keeps the place, 2 loses it", "0 1 0 1", Halls.ranks(two, 4));
     }
 
     private static void dispatchInTheShift() {
-        HiringHall hall = ordered(hallOf(1, 1, 1, 1), 0, 0);
+        HiringHall hall = Halls.ordered(Halls.of(1, 1, 1, 1), 0, 0);
         hall.dispatch();
         hall.leave(0, 3);
         Check.due("a second gang", 1, hall.dispatch());
-        Check.due("the open place, by one who has not been at work", "2 1", filled(hall));
+        Check.due("the open place, by one who has not been at work", "2 1", Halls.filled(hall));
         Check.due("nothing is open", 0, hall.dispatch());
         hall.order(0);
         hall.order(0);
         Check.due("a third gang", 1, hall.dispatch());
-        Check.due("nobody is ready for the last", "2 1 3 -1", filled(hall));
+        Check.due("nobody is ready for the last", "2 1 3 -1", Halls.filled(hall));
         Check.due("who comes late works less", 3 + 8 + 5 + 5, hall.endShift());
         Check.due("from the hour of the shift", 5, hall.hoursOf(2));
-        Check.due("in the next shift all are ready", 4, ordered(hall, 0, 0, 0, 0).dispatch());
+        Check.due("in the next shift all are ready", 4, Halls.ordered(hall, 0, 0, 0, 0).dispatch());
     }
 
     private static void setHours() {
-        HiringHall hall = ordered(hallOf(1), 0);
+        HiringHall hall = Halls.ordered(Halls.of(1), 0);
         Check.due("8 hours before", 8, hall.setHours(12));
         Check.due("12 hours before", 12, hall.setHours(1));
         Check.due("1 hour before", 1, hall.setHours(10));
         hall.dispatch();
         Check.due("the shift to come included", 10, hall.endShift());
-        ordered(hall, 0).dispatch();
+        Halls.ordered(hall, 0).dispatch();
         Check.due("those after it, too", 10, hall.endShift());
         Check.due("after the shift", 10, hall.setHours(9));
         int[] bad = {0, 13, -1, MIN, MAX};
         for (int hours : bad) {
             refusedByAll("setHours to " + hours, Check.ARGUMENT, h -> h.setHours(hours));
         }
-        Check.refused("setHours at work", Check.STATE, PromisesTest::busyHall, h -> h.setHours(8));
-        Check.refused("setHours after work", Check.STATE, PromisesTest::allLeftAtOnce, h -> h.setHours(8));
-        Check.refused("setHours after work of one signed off", Check.STATE, PromisesTest::leftAndSignedOff,
+        Check.refused("setHours at work", Check.STATE, Halls::busy, h -> h.setHours(8));
+        Check.refused("setHours after work", Check.STATE, Halls::allLeftAtOnce, h -> h.setHours(8));
+        Check.refused("setHours after work of one signed off", Check.STATE, Halls::leftAndSignedOff,
                 h -> h.setHours(8));
     }
 
-    private static HiringHall allLeftAtOnce() {
-        HiringHall hall = ordered(hallOf(1, 2), 0);
-        hall.setRule(0, true, 9);
-        hall.dispatch();
-        hall.leave(0, 0);
-        return hall;
-    }
-
-    private static HiringHall leftAndSignedOff() {
-        HiringHall hall = allLeftAtOnce();
-        hall.signOff(0);
-        return hall;
-    }
-
     private static void leave() {
-        HiringHall hall = ordered(hallOf(1, 1, 1), 0, 0, 0);
+        HiringHall hall = Halls.ordered(Halls.of(1, 1, 1), 0, 0, 0);
         hall.dispatch();
         Check.due("at the hour 0", 1, hall.leave(1, 0));
         Check.due("no hours", 0, hall.hoursOf(1));
@@ -527,26 +458,26 @@ public final class PromisesTest {
         Check.due("not at work", HiringHall.NONE, hall.placeOf(1));
         Check.due("later", 0, hall.leave(0, 5));
         Check.due("five hours", 5, hall.hoursOf(0));
-        Check.due("the rank stays", "0 1 2", ranks(hall, 3));
+        Check.due("the rank stays", "0 1 2", Halls.ranks(hall, 3));
         Check.due("not back in time", Check.STATE, () -> hall.leave(2, 4));
         Check.due("in the same hour", 2, hall.leave(2, 5));
         Check.due("left already", Check.STATE, () -> hall.leave(2, 6));
         Check.due("all in all", 10, hall.endShift());
-        ordered(hall, 0).dispatch();
+        Halls.ordered(hall, 0).dispatch();
         Check.due("the hour is 0 again, and all can be worked", 0, hall.leave(0, 8));
         Check.due("on top of those before", 13, hall.hoursOf(0));
         refusedByAll("leave of nobody", Check.NO_ELEMENT, h -> h.leave(6, 3));
         refusedByAll("leave of nobody at no hour", Check.NO_ELEMENT, h -> h.leave(-1, 9));
         int[] bad = {-1, 9, MIN, MAX};
         for (int hour : bad) {
-            Check.refused("leave at " + hour, Check.ARGUMENT, PromisesTest::busyHall, h -> h.leave(1, hour));
-            Check.refused("leave, not at work, at " + hour, Check.ARGUMENT, PromisesTest::busyHall,
+            Check.refused("leave at " + hour, Check.ARGUMENT, Halls::busy, h -> h.leave(1, hour));
+            Check.refused("leave, not at work, at " + hour, Check.ARGUMENT, Halls::busy,
                     h -> h.leave(0, hour));
         }
-        Check.refused("leave in an hour past", Check.STATE, PromisesTest::busyHall, h -> h.leave(1, 1));
-        Check.refused("leave twice", Check.STATE, PromisesTest::busyHall, h -> h.leave(0, 3));
-        Check.refused("leave without work", Check.STATE, PromisesTest::busyHall, h -> h.leave(4, 3));
-        HiringHall brief = ordered(hallOf(1), 0);
+        Check.refused("leave in an hour past", Check.STATE, Halls::busy, h -> h.leave(1, 1));
+        Check.refused("leave twice", Check.STATE, Halls::busy, h -> h.leave(0, 3));
+        Check.refused("leave without work", Check.STATE, Halls::busy, h -> h.leave(4, 3));
+        HiringHall brief = Halls.ordered(Halls.of(1), 0);
         brief.setHours(3);
         brief.dispatch();
         Check.due("after the end of a short shift", Check.ARGUMENT, () -> brief.leave(0, 4));
@@ -554,13 +485,13 @@ public final class PromisesTest {
     }
 
     private static void replace() {
-        HiringHall hall = ordered(hallOf(1, 2, 4, 3, 2), 0, 1);
+        HiringHall hall = Halls.ordered(Halls.of(1, 2, 4, 3, 2), 0, 1);
         Check.due("a place that nobody filled", 1, hall.replace(1));
-        Check.due("the replacement fills it", "-1 1", filled(hall));
-        Check.due("and goes to the bottom", "0 4 1 2 3", ranks(hall, 5));
+        Check.due("the replacement fills it", "-1 1", Halls.filled(hall));
+        Check.due("and goes to the bottom", "0 4 1 2 3", Halls.ranks(hall, 5));
         hall.leave(1, 6);
         Check.due("a place that was filled", 3, hall.replace(1));
-        Check.due("at the bottom", "0 3 1 4 2", ranks(hall, 5));
+        Check.due("at the bottom", "0 3 1 4 2", Halls.ranks(hall, 5));
         hall.leave(3, 7);
         Check.due("the last with the skill", 4, hall.replace(1));
         hall.leave(4, 7);
@@ -574,34 +505,34 @@ public final class PromisesTest {
         for (int place : nowhere) {
             refusedByAll("replace at " + place, Check.NO_ELEMENT, h -> h.replace(place));
         }
-        Check.refused("replace at a filled place", Check.STATE, PromisesTest::busyHall, h -> h.replace(1));
+        Check.refused("replace at a filled place", Check.STATE, Halls::busy, h -> h.replace(1));
     }
 
     private static void replaceAndRefusals() {
-        HiringHall hall = ordered(hallOf(1, 2, 1, 1, 1), 0);
+        HiringHall hall = Halls.ordered(Halls.of(1, 2, 1, 1, 1), 0);
         hall.setRule(0, true, 0);
         int[] refusers = {0, 1, 2, 4};
         for (int worker : refusers) {
             hall.setRefusing(worker, true);
         }
         Check.due("the first who does not refuse", 3, hall.replace(0));
-        Check.due("those ahead lose their places", "2 0 3 4 1", ranks(hall, 5));
+        Check.due("those ahead lose their places", "2 0 3 4 1", Halls.ranks(hall, 5));
         Check.due("those ahead with the skill refused", "1 0 1 0 0", hall.refusalsOf(0) + " " + hall.refusalsOf(1)
                 + " " + hall.refusalsOf(2) + " " + hall.refusalsOf(3) + " " + hall.refusalsOf(4));
         hall.leave(3, 1);
         Check.due("all refuse", HiringHall.NONE, hall.replace(0));
         Check.due("each once more", "2 0 2 0 1", hall.refusalsOf(0) + " " + hall.refusalsOf(1)
                 + " " + hall.refusalsOf(2) + " " + hall.refusalsOf(3) + " " + hall.refusalsOf(4));
-        Check.due("by the turn as it was", "3 0 4 1 2", ranks(hall, 5));
+        Check.due("by the turn as it was", "3 0 4 1 2", Halls.ranks(hall, 5));
 
-        HiringHall lenient = ordered(hallOf(1, 1), 0);
+        HiringHall lenient = Halls.ordered(Halls.of(1, 1), 0);
         lenient.setRefusing(0, true);
         Check.due("the second", 1, lenient.replace(0));
-        Check.due("the first keeps the place", "0 1", ranks(lenient, 2));
+        Check.due("the first keeps the place", "0 1", Halls.ranks(lenient, 2));
     }
 
     private static void endShift() {
-        HiringHall hall = ordered(hallOf(1, 1, 1), 0, 0);
+        HiringHall hall = Halls.ordered(Halls.of(1, 1, 1), 0, 0);
         hall.dispatch();
         hall.leave(0, 3);
         hall.replace(0);
@@ -614,20 +545,20 @@ public final class PromisesTest {
         Check.due("those who left are ready again", 0, hall.nextUp(0));
         Check.due("nothing is counted twice", 0, hall.endShift());
         Check.due("a new shift can have other hours", 8, hall.setHours(4));
-        ordered(hall, 0).dispatch();
+        Halls.ordered(hall, 0).dispatch();
         Check.due("from the hour 0", 4, hall.endShift());
-        HiringHall gone = leftAndSignedOff();
+        HiringHall gone = Halls.leftAndSignedOff();
         gone.signOn(0, 1);
         gone.dispatch();
         Check.due("the late one from the hour 0", 8, gone.endShift());
-        HiringHall paid = busyHall();
+        HiringHall paid = Halls.busy();
         paid.signOff(0);
         Check.due("one signed off counts", 10, paid.endShift());
         Check.due("but only once", 0, paid.endShift());
     }
 
     private static void endPeriod() {
-        HiringHall hall = ordered(hallOf(1, 1, 1), 0, 0);
+        HiringHall hall = Halls.ordered(Halls.of(1, 1, 1), 0, 0);
         hall.signOn(2, 1);
         hall.setRule(0, false, 10);
         hall.setRule(2, false, 400);
@@ -637,7 +568,7 @@ public final class PromisesTest {
         Check.due("to those here", 2 + 2 + 400, hall.endPeriod());
         Check.due("hours are 0", 0, hall.hoursOf(0));
         Check.due("a period without shifts", 10 + 10 + 400, hall.endPeriod());
-        ordered(hall, 0);
+        Halls.ordered(hall, 0);
         hall.setRefusing(0, true);
         hall.setRefusing(1, true);
         hall.setRefusing(3, true);
@@ -659,16 +590,16 @@ public final class PromisesTest {
         hall.setAway(0, true);
         hall.setAway(2, false);
         Check.due("nothing to those away", 10, hall.endPeriod());
-        Check.refused("endPeriod at work", Check.STATE, PromisesTest::busyHall, h -> h.endPeriod());
-        Check.refused("endPeriod after work", Check.STATE, PromisesTest::allLeftAtOnce, h -> h.endPeriod());
-        Check.refused("endPeriod after work of one signed off", Check.STATE, PromisesTest::leftAndSignedOff,
+        Check.refused("endPeriod at work", Check.STATE, Halls::busy, h -> h.endPeriod());
+        Check.refused("endPeriod after work", Check.STATE, Halls::allLeftAtOnce, h -> h.endPeriod());
+        Check.refused("endPeriod after work of one signed off", Check.STATE, Halls::leftAndSignedOff,
                 h -> h.endPeriod());
     }
 
     // ---- 17 to 27: questions
 
     private static void questionsOfWorkers() {
-        HiringHall hall = fullHall();
+        HiringHall hall = Halls.full();
         Check.due("workers", 30, hall.workers());
         hall.signOff(0);
         Check.due("workers, one fewer", 29, hall.workers());
@@ -679,7 +610,7 @@ public final class PromisesTest {
         Check.due("rankOf after a signOff above", 0, hall.rankOf(4));
         Check.due("rankOf at the bottom", 6, hall.rankOf(28));
         Check.due("rankOf of the last", 7, hall.rankOf(29));
-        HiringHall busy = busyHall();
+        HiringHall busy = Halls.busy();
         Check.due("placeOf at work", 1, busy.placeOf(1));
         Check.due("placeOf after leaving", HiringHall.NONE, busy.placeOf(0));
         Check.due("placeOf without work", HiringHall.NONE, busy.placeOf(5));
@@ -703,7 +634,7 @@ public final class PromisesTest {
     }
 
     private static void hoursOf() {
-        HiringHall hall = ordered(hallOf(1, 1), 0, 0);
+        HiringHall hall = Halls.ordered(Halls.of(1, 1), 0, 0);
         hall.dispatch();
         Check.due("without those of the shift that is on", 0, hall.hoursOf(0));
         hall.leave(0, 7);
@@ -711,7 +642,7 @@ public final class PromisesTest {
         Check.due("the other is still at work", 0, hall.hoursOf(1));
         hall.endShift();
         Check.due("with those of the shift that ended", 8, hall.hoursOf(1));
-        ordered(hall, 0, 0).dispatch();
+        Halls.ordered(hall, 0, 0).dispatch();
         hall.endShift();
         Check.due("of all shifts of the period", "15 16", hall.hoursOf(0) + " " + hall.hoursOf(1));
         hall.endPeriod();
@@ -719,7 +650,7 @@ public final class PromisesTest {
     }
 
     private static void owedTo() {
-        HiringHall hall = ordered(hallOf(1, 1), 0);
+        HiringHall hall = Halls.ordered(Halls.of(1, 1), 0);
         Check.due("nothing is guaranteed", 0, hall.owedTo(0));
         hall.setRule(0, false, 9);
         Check.due("all that is guaranteed", 9, hall.owedTo(0));
@@ -749,10 +680,10 @@ public final class PromisesTest {
     }
 
     private static void questionsOfPlaces() {
-        HiringHall hall = ordered(hallOf(1, 1), 0, 4, 0);
+        HiringHall hall = Halls.ordered(Halls.of(1, 1), 0, 4, 0);
         Check.due("places", 3, hall.places());
         hall.dispatch();
-        Check.due("workerAt", "0 -1 1", filled(hall));
+        Check.due("workerAt", "0 -1 1", Halls.filled(hall));
         Check.due("places, filled ones too", 3, hall.places());
         hall.leave(0, 1);
         Check.due("workerAt a place that was left", HiringHall.NONE, hall.workerAt(0));
@@ -766,7 +697,7 @@ public final class PromisesTest {
     }
 
     private static void nextUp() {
-        HiringHall hall = ordered(hallOf(1, 2, 4), 0);
+        HiringHall hall = Halls.ordered(Halls.of(1, 2, 4), 0);
         hall.signOn(3, 0);
         Check.due("the top", 0, hall.nextUp(0));
         Check.due("the top of another board, even without skills", 3, hall.nextUp(3));
@@ -792,7 +723,7 @@ public final class PromisesTest {
     }
 
     private static void fillable() {
-        HiringHall hall = ordered(hallOf(3, 1, 1, 0), 0, 1, 2);
+        HiringHall hall = Halls.ordered(Halls.of(3, 1, 1, 0), 0, 1, 2);
         Check.due("each by another one", 2, hall.fillable());
         Check.due("asking changes nothing", 2, hall.fillable());
         hall.setRefusing(0, true);
@@ -811,14 +742,14 @@ public final class PromisesTest {
         hall.signOff(2);
         Check.due("nor one signed off", 1, hall.fillable());
 
-        HiringHall turned = ordered(hallOf(1, 3, 6), 2, 1, 0);
+        HiringHall turned = Halls.ordered(Halls.of(1, 3, 6), 2, 1, 0);
         Check.due("by turning around", 3, turned.fillable());
-        Check.due("more than there are", 1, ordered(hallOf(31, 31, 31), 4).fillable());
-        Check.due("fewer than there are", 1, ordered(hallOf(31), 0, 1, 2).fillable());
-        HiringHall unskilled = ordered(hallOf(0, 0, 16), 0, 0, 1, 1, 2, 2, 3, 3, 4, 4);
+        Check.due("more than there are", 1, Halls.ordered(Halls.of(31, 31, 31), 4).fillable());
+        Check.due("fewer than there are", 1, Halls.ordered(Halls.of(31), 0, 1, 2).fillable());
+        HiringHall unskilled = Halls.ordered(Halls.of(0, 0, 16), 0, 0, 1, 1, 2, 2, 3, 3, 4, 4);
         Check.due("none without skills", 1, unskilled.fillable());
         Check.due("and those asked about are not remembered", 1, unskilled.dispatch());
-        Check.due("none with the skill", 0, ordered(hallOf(15, 15), 4, 4).fillable());
-        Check.due("two by two", 4, ordered(hallOf(1, 1, 1, 6, 6, 6), 0, 0, 1, 2).fillable());
+        Check.due("none with the skill", 0, Halls.ordered(Halls.of(15, 15), 4, 4).fillable());
+        Check.due("two by two", 4, Halls.ordered(Halls.of(1, 1, 1, 6, 6, 6), 0, 0, 1, 2).fillable());
     }
 }
