@@ -351,6 +351,7 @@ public final class BoardsTest {
         HiringHall atWork = Halls.atWork(2);
         Halls.refusing(atWork, 0);
         Check.due("one at work stays at work", "0 1", Halls.filled(atWork));
+        Check.due("but was told to refuse", true, atWork.setRefusing(0, true));
         atWork.endShift();
         Check.due("and refuses no more in the next", 2, Halls.ordered(atWork, 0, 0).dispatch());
 
@@ -460,6 +461,20 @@ public final class BoardsTest {
                 + boards.rankOf(3));
         boards.equalise(1);
         Check.due("until that is asked for", "1 0", boards.rankOf(0) + " " + boards.rankOf(3));
+        HiringHall atWork = Halls.ordered(withHours(8, 0, 4), 0, 0, 0);
+        atWork.dispatch();
+        Check.due("those at work, too", "2 0 1", ranksOfEqualised(atWork));
+        Check.due("who stay at work", "0 1 2", Halls.filled(atWork));
+        HiringHall away = withHours(8, 0, 4);
+        away.setAway(0, true);
+        away.setAway(1, true);
+        Check.due("and those away", "2 0 1", ranksOfEqualised(away));
+        HiringHall turn = withHours(8, 4, 2, 0);
+        turn.move(2, 1);
+        turn.move(3, 1);
+        Check.due("two of the second board", 2, turn.equalise(1));
+        Halls.ordered(turn, 0, 0, 0, 0).dispatch();
+        Check.due("nobody passes those of the board before", "0 1 3 2", Halls.filled(turn));
 
         DOCUMENT.says("Returns how many workers of the board have another place then.");
         Check.due("an empty board", 0, new HiringHall().equalise(3));

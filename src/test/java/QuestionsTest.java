@@ -1,3 +1,5 @@
+import java.util.function.Supplier;
+
 /** The sentences of the promises 17 to 27, questions, in the order of the document. No question changes anything. */
 public final class QuestionsTest {
     private static final String WORKER = "`worker`: the worker";
@@ -364,8 +366,9 @@ public final class QuestionsTest {
         Check.due("two for 16", 2, Halls.sixteenPlaces().fillable());
         Check.due("16 of 30", 16, Halls.ordered(Halls.crowded(2), 0, 1, 2, 3, 4, 0, 1, 2, 3, 4, 0, 1, 2, 3, 4, 0)
                 .fillable());
-        HiringHall unskilled = Halls.ordered(Halls.of(0, 0, 0, 16), 0, 1, 2, 3, 4);
-        Check.due("one of four", 1, unskilled.fillable());
+        Supplier<HiringHall> unskilled = () -> Halls.ordered(Halls.of(0, 0, 16), 0, 0, 1, 1, 2, 2, 3, 3, 4, 4);
+        Check.due("none by those without skills, though places are many", 1, unskilled.get().fillable());
+        Check.asked("asking with some without skills", 1, unskilled, HiringHall::fillable);
         Check.asked("asking", 1, Halls::busy, HiringHall::fillable);
         Check.asked("asking with 16 places", 2, Halls::sixteenPlaces, HiringHall::fillable);
     }

@@ -341,6 +341,10 @@ public final class TermsTest {
             toWork(h).endShift();
             return h;
         });
+        readiness("one who was away at the end of the shift in which one was at work", true, h -> {
+            told(toWork(h), true).endShift();
+            return told(h, false);
+        });
         readiness("one who refused", true, h -> {
             Halls.refusing(Halls.ordered(h, 0), 0).dispatch();
             h.setRefusing(0, false);
