@@ -11,7 +11,8 @@ import java.util.Set;
 
 /**
  * The sentences of the document. A test tells which sentence it tests before its checks; a sentence that no test
- * tells, one that the document does not hold, and one that nothing is checked for are wrong answers.
+ * tells, one that the document does not hold, and one that nothing is checked for are wrong answers. (What the
+ * interface says ahead of calls is the matter of FaceTest.)
  */
 final class Document {
     private static final Path FILE = Path.of("../shared/DOC.md");

@@ -7,18 +7,15 @@ import java.lang.reflect.Modifier;
 import java.nio.file.Files;
 import java.nio.file.Path;
 import java.util.ArrayList;
-import java.util.Arrays;
-import java.util.HashSet;
 import java.util.List;
 import java.util.Set;
 import java.util.TreeSet;
 import java.util.regex.Matcher;
 import java.util.regex.Pattern;
 
-/** The public face as the document writes it out, and what of LANGUAGE.md can be seen without reading the code. */
+/** The public face as the document writes it out, and nothing beside it. */
 public final class FaceTest {
     private static final Path PROGRAM = Path.of("src/main/java/HiringHall.java");
-    private static final Path DOCUMENT = Path.of("../shared/DOC.md");
 
     private FaceTest() {
     }
@@ -26,15 +23,13 @@ public final class FaceTest {
     public static void main(String[] args) throws IOException {
         faceIsThatOfTheDocument();
         nothingElseIsSeen();
-        privateNamesAreOthers();
-        classesInsideAreFew();
-        wordsThatAreRuledOut();
+        headingsAreThoseOfTheDocument();
         Check.end("FaceTest");
     }
 
     private static void faceIsThatOfTheDocument() throws IOException {
         Set<String> want = new TreeSet<>();
-        Matcher lines = Pattern.compile("(?m)^    public (?!static)(.*);$").matcher(Files.readString(DOCUMENT));
+        Matcher lines = Pattern.compile("(?m)^    public (?!static)(.*);$").matcher(Document.text());
         while (lines.find()) {
             want.add(lines.group(1).replaceAll("\\b(int|boolean) \\w+(?=[,)])", "$1").replace("java.util.", ""));
         }
@@ -72,56 +67,40 @@ public final class FaceTest {
             Check.due("field " + field.getName(), isConstant ? "public static final" : "private",
                     isConstant ? Modifier.toString(field.getModifiers())
                             : Modifier.toString(field.getModifiers() & Modifier.PRIVATE));
-            Check.due("static fields are final: " + field.getName(), Modifier.isStatic(field.getModifiers()),
-                    Modifier.isStatic(field.getModifiers()) && Modifier.isFinal(field.getModifiers()));
         }
         for (Method method : HiringHall.class.getDeclaredMethods()) {
             int seen = method.getModifiers() & (Modifier.PUBLIC | Modifier.PRIVATE);
             Check.due("method " + method.getName() + " is public or private", true, seen != 0);
         }
-    }
-
-    private static void privateNamesAreOthers() {
-        Set<String> face = new HashSet<>();
-        for (Method method : HiringHall.class.getDeclaredMethods()) {
-            if (Modifier.isPublic(method.getModifiers())) {
-                face.add(method.getName());
-            }
-        }
-        for (Method method : HiringHall.class.getDeclaredMethods()) {
-            if (!Modifier.isPublic(method.getModifiers())) {
-                Check.due("the name of a public method: " + method.getName(), false, face.contains(method.getName()));
-            }
+        for (Class<?> type : HiringHall.class.getDeclaredClasses()) {
+            int seen = type.getModifiers() & (Modifier.PUBLIC | Modifier.PROTECTED);
+            Check.due("class " + type.getSimpleName() + " is not for others", 0, seen);
         }
     }
 
-    private static void classesInsideAreFew() {
-        Class<?>[] inside = HiringHall.class.getDeclaredClasses();
-        Check.due("at most some twelve classes", true, inside.length < 12);
-        for (Class<?> type : inside) {
-            Check.due(type.getSimpleName() + " is not for others", 0,
-                    type.getModifiers() & (Modifier.PUBLIC | Modifier.PROTECTED));
-            Check.due(type.getSimpleName() + " is static", true, Modifier.isStatic(type.getModifiers()));
-            long fields = Arrays.stream(type.getDeclaredFields()).filter(f -> !Modifier.isStatic(f.getModifiers()))
-                    .count();
-            Check.due(type.getSimpleName() + " has at most some twenty fields", true, fields <= 20);
+    /** What the interface says ahead of calls stands in the program ahead of those calls, in the same order. */
+    private static void headingsAreThoseOfTheDocument() throws IOException {
+        String program = Files.readString(PROGRAM);
+        Matcher headings = Pattern.compile("(?m)^Ahead of the calls (.*) the interface says: (.*)\\.$")
+                .matcher(Document.text());
+        int found = 0;
+        while (headings.find()) {
+            found++;
+            String heading = "\n    // " + headings.group(2) + "\n";
+            Check.due("the heading " + headings.group(2), true, program.contains(heading));
+            String part = program.substring(program.indexOf(heading) + heading.length()).split("\n    // ----")[0];
+            Check.due("the calls behind " + headings.group(2), headings.group(1).replace("`", ""),
+                    String.join(", ", publicMethods(part)));
         }
+        Check.due("the document tells headings", 3, found);
     }
 
-    private static void wordsThatAreRuledOut() throws IOException {
-        String text = Files.readString(PROGRAM);
-        String code = text.replaceAll("(?s)/\\*.*?\\*/", "").replaceAll("//.*", "");
-        String[] ruledOut = {"->", "::", "\\btry\\b", "\\bcatch\\b", "\\bfinally\\b", "\\bsynchronized\\b",
-            "\\bassert\\b", "\\bpackage\\b", "Exact\\b", "\\bcurrentTimeMillis\\b", "\\bRandom\\b", "\\bThread\\b",
-            "\\bequals\\(", "\\bhashCode\\(", "\\btoString\\(", "\\bMap\\b", "\\bSet\\b", "\\bstatic \\{"};
-        for (String word : ruledOut) {
-            Check.due("the program uses " + word, false, Pattern.compile(word).matcher(code).find());
+    private static List<String> publicMethods(String part) {
+        List<String> names = new ArrayList<>();
+        Matcher methods = Pattern.compile("(?m)^    public \\w+ (\\w+)\\(").matcher(part);
+        while (methods.find()) {
+            names.add(methods.group(1));
         }
-        Matcher imports = Pattern.compile("(?m)^import (.*);$").matcher(code);
-        while (imports.find()) {
-            Check.due("import of " + imports.group(1), true,
-                    imports.group(1).matches("java\\.util\\.(ArrayList|NoSuchElementException)"));
-        }
-        Check.due("plain signs alone", true, text.chars().allMatch(sign -> sign > 0 && sign < 128));
+        return names;
     }
 }
